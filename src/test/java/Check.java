@@ -28,6 +28,17 @@ final class Check {
         return x.street();
     }
 
+    /** A BLOCK of five: 0 seeks 1, 1 flees 0 by changing with 2; behind four MOVES all live as before. */
+    static ThirdAlike chase(String more) {
+        ThirdAlike x = new ThirdAlike();
+        x.town(5, 2);
+        x.person(0, 0, 0, 1);
+        x.person(3, 1, 0, 0);
+        x.person(1, 7, 1, 3);
+        due("the chase's street", street(x, "wish 50 p=0;most 0 p=1" + more), 0);
+        return x;
+    }
+
     static int wrongSoFar() {
         return wrong;
     }

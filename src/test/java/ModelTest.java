@@ -72,10 +72,12 @@ public final class ModelTest {
         all();
     }
 
-    /** Many MOVES, so that MOVES modulo 60 come round; most streets rest too soon for that. */
+    /** Many MOVES, so that MOVES modulo 60 come round: one seeks who is alike, another flees; most rest too soon all the same. */
     private boolean walkFar() {
         settle(12);
-        feedAll(street());
+        String chase = "wish 50 p=0;most " + any(0, 49) + " p=1";
+        String more = street();
+        feedAll(chase.length() + more.length() < 100 ? chase + ";" + more : chase);
         if (m.run(100, 0) < 100) {
             return false;
         }

@@ -18,19 +18,8 @@ public final class MovesTest {
         Check.end();
     }
 
-    /** A BLOCK of five: 0 seeks 1, 1 flees 0 by changing with 2; behind four MOVES all live as before. */
-    private static ThirdAlike chase(String more) {
-        ThirdAlike x = new ThirdAlike();
-        x.town(5, 2);
-        x.person(0, 0, 0, 1);
-        x.person(3, 1, 0, 0);
-        x.person(1, 7, 1, 3);
-        Check.due("the chase's street", Check.street(x, "wish 50 p=0;most 0 p=1" + more), 0);
-        return x;
-    }
-
     private static void move() {
-        ThirdAlike x = chase("");
+        ThirdAlike x = Check.chase("");
         int[] gone = {13, 2, 10, 1, 13, 2};
         int[] homes = {130, 230, 203, 103, 130, 230};
         for (int i = 0; i < gone.length; i++) {
@@ -56,7 +45,7 @@ public final class MovesTest {
     }
 
     private static void run() {
-        ThirdAlike x = chase("");
+        ThirdAlike x = Check.chase("");
         int[][] want = {{0, 1, 5, 1, 0, 3}, {1, 0, 6, 1, 3, 0}, {2, 1, 5, 2, 3, 0}, {3, 0, 6, 2, 0, 3}, {4, 1, 5, 1, 0, 3}, {100, 1, 5, 1, 0, 3}};
         for (int[] row : want) {
             int n = row[0];
@@ -98,11 +87,11 @@ public final class MovesTest {
         Check.due("10: 0 goes", x.move(), 5);
         Check.due("12: at rest", x.rest(), 0);
         Check.due("12: nobody", new ThirdAlike().rest(), 0);
-        Check.due("12: never", chase("").rest(), -5);
+        Check.due("12: never", Check.chase("").rest(), -5);
     }
 
     private static void again() {
-        ThirdAlike x = chase("");
+        ThirdAlike x = Check.chase("");
         Check.due("13: again()", x.again(), 4);
         x.move();
         Check.due("13: again() behind a MOVE", x.again(), 4);
@@ -119,7 +108,7 @@ public final class MovesTest {
     }
 
     private static void movesComeRound() {
-        ThirdAlike x = chase(";dear 7 m=59;dear 9 m=1;dear 1 m>59");
+        ThirdAlike x = Check.chase(";dear 7 m=59;dear 9 m=1;dear 1 m>59");
         for (int i = 1; i <= 125; i++) {
             x.move();
             Check.due("8: COST by MOVES " + i, x.of(2, 6), i % 60 == 59 ? 7 : i % 60 == 1 ? 9 : 0);

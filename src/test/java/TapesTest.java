@@ -99,18 +99,8 @@ public final class TapesTest {
         Check.due("22: first again", x.book(33), 1);
     }
 
-    private static ThirdAlike chase() {
-        ThirdAlike x = new ThirdAlike();
-        x.town(5, 2);
-        x.person(0, 0, 0, 1);
-        x.person(3, 1, 0, 0);
-        x.person(1, 7, 1, 3);
-        Check.due("the chase's street", Check.street(x, "wish 50 p=0;most 0 p=1"), 0);
-        return x;
-    }
-
     private static void looked() {
-        ThirdAlike x = chase();
+        ThirdAlike x = Check.chase("");
         Check.due("23: empty book", x.looked(), -5);
         int[] moves = {13, 2, 10, 1, 13, 2};
         for (int move : moves) {
@@ -159,9 +149,9 @@ public final class TapesTest {
     }
 
     private static void imageAndUndo() {
-        ThirdAlike x = chase();
-        x.book(13);
+        ThirdAlike x = Check.chase("");
         x.move();
+        x.book(2);
         Check.due("25: image()", x.image(), 3);
         x.move();
         x.book(2);
@@ -185,7 +175,9 @@ public final class TapesTest {
                 }
             }
             Check.due("26: the book", x.count(2), 1);
-            Check.due("26: what the book tells", x.looked(), 0);
+            Check.due("26: what the book tells", x.looked(), -5);
+            x.book(-1);
+            x.book(33);
             Check.due("26: the fourth is gone", x.of(3, 0), -10001);
             x.person(2, 2, 2, 4);
             x.put(1, 2);
