@@ -76,6 +76,8 @@ public final class RareTest {
             5, 8, 0, 5, 4, 6, 0, 0, 5, 0, 1, 6, 3, 1, 0, 4, 2, 0, 0, 2));
         beginsAt(76, new RareTest("wish 50 p=0&!p=2;most 0 p=1&!m<30;wish 60 p=1&m>20", 8, 2,
             2, 9, 1, 7, 6, 3, 0, 6, 6, 5, 0, 2, 5, 4, 0, 3, 0, 8, 0, 5));
+        beginsAt(81, new RareTest("most 42 f<5&f>1", 8, 2, 6, 5, 0, 4, 0, 7, 1, 3, 1, 5, 0, 1, 4, 1, 0, 7, 5, 4, 0, 2, 5, 9, 0, 0));
+        beginsAt(81, new RareTest("most 93 f<5&f>1", 8, 2, 2, 9, 0, 1, 6, 5, 0, 0, 5, 5, 0, 2, 6, 3, 0, 3, 1, 2, 1, 7, 2, 5, 0, 4));
         // in these they never rest: a MOVE more, or one less, and the answer is another one
         beginsAt(34, new RareTest("most 43 p=2", 6, 0, 3, 0, 1, 1, 3, 6, 1, 5, 4, 7, 0, 0, 0, 6, 0, 3, 6, 7, 0, 4));
         beginsAt(51, new RareTest("most 2 p=1&!h<3;most 0 m<9&p=1", 8, 0, 0, 7, 0, 2, 1, 9, 0, 6, 4, 2, 1, 1));
