@@ -1,5 +1,7 @@
 /** Counts answers that are not as due. */
 final class Check {
+    static final int LOW = Integer.MIN_VALUE, HIGH = Integer.MAX_VALUE;
+
     private static int wrong = 0;
     private static int looked = 0;
 
@@ -28,15 +30,22 @@ final class Check {
         return x.street();
     }
 
+    /** A town of n HOUSES by a SHAPE, its people each told by KIND, v, SORT and HOUSE, and a STREET, if there is a text. */
+    static ThirdAlike live(int n, int shape, String text, int... people) {
+        ThirdAlike x = new ThirdAlike();
+        due("town(" + n + ", " + shape + ")", x.town(n, shape), 8);
+        for (int i = 0; i + 3 < people.length; i += 4) {
+            due("person " + i / 4, x.person(people[i], people[i + 1], people[i + 2], people[i + 3]), i / 4);
+        }
+        if (!text.isEmpty()) {
+            due("street of '" + text + "'", street(x, text), 0);
+        }
+        return x;
+    }
+
     /** A BLOCK of five: 0 seeks 1, 1 flees 0 by changing with 2; behind four MOVES all live as before. */
     static ThirdAlike chase(String more) {
-        ThirdAlike x = new ThirdAlike();
-        x.town(5, 2);
-        x.person(0, 0, 0, 1);
-        x.person(3, 1, 0, 0);
-        x.person(1, 7, 1, 3);
-        due("the chase's street", street(x, "wish 50 p=0;most 0 p=1" + more), 0);
-        return x;
+        return live(5, 2, "wish 50 p=0;most 0 p=1" + more, 0, 0, 0, 1, 3, 1, 0, 0, 1, 7, 1, 3);
     }
 
     static int wrongSoFar() {
@@ -44,9 +53,9 @@ final class Check {
     }
 
     static void end() {
-        System.out.println(wrong == 0 ? looked + " answers are as due" : wrong + " of " + looked + " answers are not as due");
         if (wrong != 0 || looked == 0) {
-            System.exit(1);
+            throw new AssertionError(wrong + " of " + looked + " answers are not as due");
         }
+        System.out.println(looked + " answers are as due");
     }
 }

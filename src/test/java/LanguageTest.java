@@ -21,8 +21,10 @@ public final class LanguageTest {
         "int act(int,int,int)", "int trace(int)", "int taken(int,int)", "int count(int)", "int tape(int,int,int)",
         "int item(int,int,long)", "long read(int,int)", "int shift(int,int,int,int,int)"};
     private static final String[] REFUSED = {
-        "throw", "throws", "try", "catch", "finally", "synchronized", "assert", "import", "package", "double", "float",
-        "native", "volatile", "transient", "strictfp", "protected", "yield", "var"};
+        "throw", "throws", "try", "catch", "finally", "synchronized", "assert", "package", "native", "volatile", "transient",
+        "strictfp", "protected"};
+    private static final String LIBRARY =
+        "(?:Math|Integer|Long)\\.\\w+(?<!Exact)|Arrays\\.(?:copyOf|copyOfRange|fill)|System\\.arraycopy|List\\.of";
 
     public static void main(String[] args) throws IOException {
         face();
@@ -120,13 +122,17 @@ public final class LanguageTest {
         Check.holds("no lambda, no method reference", !code.contains("->") && !code.contains("::"));
         Check.holds("no text joined by +", !Pattern.compile("\"\\s*\\+|\\+\\s*\"").matcher(code).find());
         Check.holds("ASCII alone", source().chars().allMatch(c -> c == '\n' || c >= 32 && c < 127));
-        TreeSet<String> library = new TreeSet<>();
-        Matcher call = Pattern.compile("\\b(?:System|Math|Arrays|Integer|Long|String|Thread)\\.\\w+").matcher(code);
+        TreeSet<String> others = new TreeSet<>();
+        Matcher call = Pattern.compile("\\b(?:System|Math|StrictMath|Arrays|List|Integer|Long|String|Thread)\\.\\w+").matcher(code);
         while (call.find()) {
-            library.add(call.group());
+            others.add(call.group());
         }
-        library.removeAll(List.of("Long.MIN_VALUE", "Math.abs", "Math.max", "System.arraycopy"));
-        Check.holds("no other library: " + library, library.isEmpty());
+        others.removeIf(name -> name.matches(LIBRARY));
+        Check.holds("no other library: " + others, others.isEmpty());
+        for (String line : code.split("\n")) {
+            Check.holds("imports no more than lists: " + line,
+                !line.startsWith("import ") || line.matches("import java\\.util\\.(?:ArrayList|List|Arrays|Iterator);"));
+        }
     }
 
     /** A method begins with a line that is indented by 4 or 8 and ends with {, and ends with a brace below its beginning. */

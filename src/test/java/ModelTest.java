@@ -3,6 +3,8 @@ import java.util.Random;
 /** Random runs of calls, each answer held against the Model's. The seeds are fixed: every run is the same. */
 public final class ModelTest {
     private static final int RUNS = 900, FAR_TRIES = 12;
+    /** An object is used for so many calls; what the last questions take is left to them. */
+    private static final int LONGEST_LIFE = 512, LAST_QUESTIONS = 120;
 
     private final Random random;
     private final ThirdAlike x = new ThirdAlike();
@@ -66,10 +68,14 @@ public final class ModelTest {
             feedAll(street());
         }
         int length = any(20, 110);
-        for (int i = 0; i < length && calls < 500; i++) {
+        for (int i = 0; i < length && calls < LONGEST_LIFE - LAST_QUESTIONS; i++) {
             call(random.nextInt(100));
         }
         all();
+        while (crowded && calls < LONGEST_LIFE) {
+            due("move()", x.move(), m.move());
+        }
+        endsInLife();
     }
 
     /** Many MOVES, so that MOVES modulo 60 come round: one seeks who is alike, another flees; most rest too soon all the same. */
@@ -84,10 +90,17 @@ public final class ModelTest {
         all();
         for (int i = 0; i < 130; i++) {
             due("move()", x.move(), m.move());
-            due("told(5)", x.told(5), m.told(5));
+            if (i % 3 == 0) {
+                due("told(5)", x.told(5), m.told(5));
+            }
         }
         all();
+        endsInLife();
         return true;
+    }
+
+    private void endsInLife() {
+        Check.holds(run + calls + " is not beyond an object's life", calls <= LONGEST_LIFE);
     }
 
     /** All that is asked of how all is. */
@@ -280,7 +293,7 @@ public final class ModelTest {
     }
 
     private void feedAll(String text) {
-        for (int i = 0; i < text.length() && calls < 480; i++) {
+        for (int i = 0; i < text.length() && calls < LONGEST_LIFE - LAST_QUESTIONS; i++) {
             due("feed of '" + text + "'", x.feed(text.charAt(i)), m.feed(text.charAt(i)));
         }
         due("street of '" + text + "'", x.street(), m.street());

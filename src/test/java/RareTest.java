@@ -37,9 +37,9 @@ public final class RareTest {
     private static void restsBehind(int moves, RareTest t) {
         t.walk(moves - 102);
         for (int left = 102; left >= 98; left--) {
-            Check.due("12: rest(), " + left + " left", t.x.rest(), left > 100 ? -5 : left);
-            Check.due("12: the model's rest()", t.m.rest(), left > 100 ? -5 : left);
-            Check.due("11: run(100, 0), " + left + " left", t.x.run(100, 0), Math.min(100, left));
+            Check.due("12: rest, behind " + left, t.x.rest(), left > 100 ? -5 : left);
+            Check.due("12: the model's rest, behind " + left, t.m.rest(), left > 100 ? -5 : left);
+            Check.due("11: run, n 100, " + left + " go until nobody moves", t.x.run(100, 0), Math.min(100, left));
             t.walk(1);
         }
     }
@@ -48,17 +48,17 @@ public final class RareTest {
         RareTest t = new RareTest("wish 50 p=0&!m>20;most 0 p=1&!k=5;wish 60 p=2&p=2", 8, 2, 6, 6, 1, 2, 3, 3, 0, 1, 3, 4, 0, 6, 5, 9, 1, 3);
         for (int gone = 0; gone < 40; gone++) {
             int again = t.x.again();
-            Check.due("13: again() behind " + gone, again, t.m.again());
+            Check.due("13: again, by MOVES " + gone, again, t.m.again());
             if (gone == 21) {
-                Check.due("13: again(), behind just 100", again, 100);
+                Check.due("13: again, behind 100, the most", again, 100);
             }
             t.walk(1);
         }
     }
 
     private static void beginsAt(int wish, RareTest t) {
-        Check.due("17: begins()", t.x.begins(), wish);
-        Check.due("17: the model's begins()", t.m.begins(), wish);
+        Check.due("17: begins, by " + wish, t.x.begins(), wish);
+        Check.due("17: the model's begins, by " + wish, t.m.begins(), wish);
     }
 
     private static void begins() {
